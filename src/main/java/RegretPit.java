@@ -156,7 +156,7 @@ public final class RegretPit {
         now.remembers();
         now.sorry[m] += coins;
         now.heap[m] = 0;
-        now.brought = Math.max(0, now.brought - coins);
+        now.brought -= coins;
         return coins;
     }
 
@@ -568,9 +568,10 @@ public final class RegretPit {
             return aheadOfCut(sorrow, m, shift) / 2;
         }
 
-        /** The greatest LUMP that any SHIFT could have of him. */
-        int cutAtMost(int sorrow, int m) {
-            return Math.min(SORRY_MOST, sorrow + pullMost[m]) / 2;
+        /** What no SHIFT can have more than of him. */
+        int coinsAtMost(int sorrow, int m) {
+            int lump = Math.min(SORRY_MOST, sorrow + pullMost[m]) / 2;
+            return lump < shale ? 0 : lump;
         }
 
         int coinsOf(int sorrow, int m, int shift) {
@@ -885,7 +886,7 @@ public final class RegretPit {
             return true;
         }
 
-        /** What one WEEK can't bring more than: the greatest LUMPS, as many as CAGE. */
+        /** What one WEEK can't bring more than: the greatest coins, of as many as CAGE. */
         private int ceiling(Crew crew, int[] row) {
             int sum = 0;
             int used = 0;
@@ -893,9 +894,9 @@ public final class RegretPit {
                 int top = 0;
                 int who = 0;
                 for (int m = 0; m < crew.size; m++) {
-                    int lump = (used >> m & 1) == 1 ? 0 : crew.cutAtMost(row[m], m);
-                    if (lump > top) {
-                        top = lump;
+                    int coins = (used >> m & 1) == 1 ? 0 : crew.coinsAtMost(row[m], m);
+                    if (coins > top) {
+                        top = coins;
                         who = m;
                     }
                 }

@@ -162,6 +162,12 @@ public final class PromisesTest {
         x.clear();
         x.type(255);
         due("4: byte 255 begins none", x.pit(), -10);
+        x.clear();
+        Check.types(x, "m1 1;zz");
+        due("4: z is a letter", x.pit(), -15);
+        x.clear();
+        Check.types(x, "m1 1;");
+        due("4: read behind faults", x.pit(), 1);
     }
 
     private static void promise4ReadAnew() {
@@ -261,6 +267,9 @@ public final class PromisesTest {
         due("7: cut is 0", x.week(1), 0);
         due("7: stays 1", x.man(0, 0), 1);
         due("7: a lump of no coins is none", x.man(0, 2), 0);
+        x = Check.told("m2 0;s0;");
+        due("7: a lump of one coin", x.week(1), 1);
+        due("7: is one", x.man(0, 2), 1);
         due("7: just shale", Check.told("m12 0;s6;").week(1), 6);
         due("7: below shale", Check.told("m11 0;s6;").week(1), 0);
     }
@@ -451,7 +460,19 @@ public final class PromisesTest {
         Check.types(x, "m10 0;m20 0;s6;c1;");
         x.pit();
         due("15: other shale", x.plan(2, 0, -1), 10);
+        due("15: other shale, one week", x.plan(1, 0, -1), 10);
+        Check.types(x, "m10 0;m20 0;s20;c1;");
+        x.pit();
+        due("15: still other shale, one week", x.plan(1, 0, -1), 0);
+        Check.types(x, "m10 0;m20 0;s6;c1;");
+        x.pit();
+        x.plan(2, 0, -1);
         due("15: first by numbers", x.plan(2, 0, 0), 0);
+        x.forgives(1);
+        due("15: man 0 brings nothing", x.plan(1, 0, -1), 0);
+        x.quarrel(0, 1, 40);
+        x.forgives(1);
+        due("15: man 0 alone is another", x.plan(1, 0, -1), 25);
         x = Check.told("m9 2;c1;s5;");
         due("15: grown first", x.plan(2, 0, -1), 5);
         due("15: rests first", x.plan(2, 0, 0), 0);
@@ -729,6 +750,8 @@ public final class PromisesTest {
         x.undo();
         x.undo();
         x.undo();
+        x.undo();
+        x.quarrel(1, 2, 3);
         x.week(4);
         due("29: week", x.back(0), 1);
         due("29: sorry 0", x.man(0, 0), 18);
