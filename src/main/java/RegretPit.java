@@ -112,9 +112,10 @@ public final class RegretPit {
             return STATE;
         }
         now.remembers();
-        int brought = crew.brings(now.sorry, shift);
+        int brought = 0;
         for (int m = 0; m < crew.size; m++) {
             int coins = crew.coinsOf(now.sorry[m], m, shift);
+            brought += coins;
             if (coins > 0) {
                 now.heap[m] = coins;
             }
