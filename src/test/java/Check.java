@@ -1,6 +1,7 @@
 /** What the tests share: answers compared with what is due, and texts typed byte by byte. */
 final class Check {
     private final String name;
+    private String sentence = "";
     private int asked;
     private int wrong;
 
@@ -8,11 +9,16 @@ final class Check {
         this.name = name;
     }
 
+    /** The words of the document that the answers to come are about. */
+    void says(String words) {
+        sentence = "'" + words + "' ";
+    }
+
     void due(String what, long got, long want) {
         asked++;
         if (got != want) {
             wrong++;
-            System.out.println(name + ": " + what + " answered " + got + ", due is " + want);
+            System.out.println(name + ": " + sentence + what + " answered " + got + ", due is " + want);
         }
     }
 
@@ -43,5 +49,12 @@ final class Check {
             throw new IllegalStateException("pit() answered " + items + " for " + text);
         }
         return x;
+    }
+
+    /** Two men quarrel by 50 again and again. */
+    static void quarrels(RegretPit x, int a, int b, int times) {
+        for (int i = 0; i < times; i++) {
+            x.quarrel(a, b, 50);
+        }
     }
 }
